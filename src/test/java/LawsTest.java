@@ -189,6 +189,18 @@ public final class LawsTest {
         Check.law(x, 6, 0, "from 0 120;from 1 120;from 2 60");
         due("each has no part in it", x.keeps(1, 1, 2), 1);
         due("least", x.keeps(1, 1, 0), 0);
+        for (int k = 0; k < 4; k++) {
+            for (int j = 0; j < 4; j++) {
+                SameWater y = new SameWater();
+                y.child(50);
+                y.teach(0, k);
+                Check.law(y, 2, 0, "over " + k + " " + j + " 3");
+                y.grow(2);
+                due("2 months from " + k + " to " + j, y.keeps(0, 0, j), k == j ? 1 : 0);
+                y.grow(1);
+                due("3 months from " + k + " to " + j, y.keeps(0, 0, j), 1);
+            }
+        }
     }
 
     private static void says(String e, int child, int asking, int want) {
