@@ -13,6 +13,23 @@ final class Check {
         }
     }
 
+    /** Two texts of what was seen: the first line that differs is told. */
+    void alike(String call, String got, String want) {
+        String[] gotLines = got.split("\n");
+        String[] wantLines = want.split("\n");
+        calls++;
+        if (!got.equals(want)) {
+            wrong++;
+            for (int i = 0; i < gotLines.length && i < wantLines.length; i++) {
+                if (!gotLines[i].equals(wantLines[i])) {
+                    System.out.println(call + ", line " + i + ": " + gotLines[i] + ", due is " + wantLines[i]);
+                    return;
+                }
+            }
+            System.out.println(call + ": " + gotLines.length + " lines, due are " + wantLines.length);
+        }
+    }
+
     void end() {
         System.out.println(calls + " answers, " + wrong + " not as due");
         if (wrong != 0 || calls == 0) {
