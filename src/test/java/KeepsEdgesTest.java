@@ -16,6 +16,7 @@ public final class KeepsEdgesTest {
         overNeedsTheFirstTaught();
         overIsNoChain();
         anyOfSeveralOvers();
+        tenOvers();
         overByAgesNotByMonthsGone();
         overAtAgesThen();
         growingByMonths();
@@ -202,6 +203,22 @@ public final class KeepsEdgesTest {
             due("4 months " + law, x.keeps(0, 0, 3), 0);
             x.grow(1);
             due("5 months " + law, x.keeps(0, 0, 3), 1);
+        }
+    }
+
+    /** Each of ten clauses counts. */
+    private static void tenOvers() {
+        for (int at = 0; at < 10; at++) {
+            StringBuilder law = new StringBuilder();
+            for (int i = 0; i < 10; i++) {
+                law.append(i == 0 ? "" : ";").append(i == at ? "over 0 3 5" : "over 0 3 9");
+            }
+            SameWater x = child(50, law.toString());
+            x.teach(0, 0);
+            x.grow(4);
+            due("4 months, clause " + at, x.keeps(0, 0, 3), 0);
+            x.grow(1);
+            due("5 months, clause " + at, x.keeps(0, 0, 3), 1);
         }
     }
 

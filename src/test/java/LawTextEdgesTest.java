@@ -22,6 +22,7 @@ public final class LawTextEdgesTest {
         bytesBeyondText();
         fromLastAndWithout();
         slipLastMoreAndWithout();
+        emptyThen();
         faultLeavesNothing();
         CHECK.end();
     }
@@ -381,6 +382,24 @@ public final class LawTextEdgesTest {
         slip("slip 5;slip 999", 100);
         slip("slip 7;slip 0", 0);
         slip("slip 7;from 0 8;slip 3;from 1 9", 3);
+    }
+
+    /** THE TAPE "is empty then (by a FAULT, too)": no byte of a longer text stands behind a shorter one. */
+    private static void emptyThen() {
+        String longer = "slip 12;say 0 !(a<12|k=1&!m>1)|t=2&e<9;from 0 123;over 1 2 34?";
+        for (int size = 0; size < longer.length(); size++) {
+            String text = longer.substring(0, size);
+            boolean isLaw = Model.isLaw(text);
+            SameWater x = new SameWater();
+            due("fault of the longer", Check.law(x, 0, 0, longer), -10 - longer.length() + 1);
+            due("empty", x.count(4), 0);
+            due("then " + text, Check.law(x, 0, 0, text), isLaw ? 0 : -10 - size);
+            due("empty again", x.count(4), 0);
+            SameWater y = new SameWater();
+            due("the longer", Check.law(y, 0, 0, longer.substring(0, longer.length() - 1)), 0);
+            due("empty", y.count(4), 0);
+            due("then " + text, Check.law(y, 0, 0, text), isLaw ? 1 : -10 - size);
+        }
     }
 
     /** What a text with a FAULT told is not in the law that comes next. */

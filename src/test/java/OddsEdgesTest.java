@@ -26,6 +26,7 @@ public final class OddsEdgesTest {
         nextOfNothing();
         nextWhereAllTellTheSame();
         nextOfSeveralTheLeast();
+        nextByEachHeap();
         nextOfEightLaws();
         CHECK.end();
     }
@@ -217,6 +218,11 @@ public final class OddsEdgesTest {
             due("as told " + same, x.right(0), same);
             due("the others", x.right(1), 40 - same);
         }
+        SameWater y = answered(0);
+        Check.law(y, ANSWER, 0, "say 0 a<999");
+        due("less to all, of none", y.right(0), 0);
+        y.answer(0, 0, 2, false);
+        due("less to all, of more", y.right(0), 0);
         SameWater x = answered(0);
         Check.law(x, ANSWER, 0, "slip 0");
         due("of none", x.right(0), 0);
@@ -282,6 +288,13 @@ public final class OddsEdgesTest {
         due("a law and an answer", x.rule(0), 0);
         due("a law, no answers", x.rule(1), -5);
         due("no child", x.rule(2), SameWater.NONE);
+        SameWater y = answered(0);
+        Check.law(y, ANSWER, 0, "slip 0");
+        due("no answers at all", y.rule(0), -5);
+        y.child(50);
+        y.answer(1, 0, 1, false);
+        due("none of child 0", y.rule(0), -5);
+        due("one of child 1", y.rule(1), 0);
     }
 
     /** "(of several the least)", also where none of its answers is as any tells. */
@@ -372,6 +385,7 @@ public final class OddsEdgesTest {
         x.asking(1, 0, 1, false, 0, 0, 0);
         Check.law(x, LENGTH, 0, "slip 0");
         Check.law(x, KEPT, 0, "from 0 60");
+        Check.law(x, LENGTH, 0, "say 0 t<1;say 0 w>0");
         due("at 50", x.next(0), -5);
         due("at 60", x.next(1), 0);
         x.grow(9);
@@ -398,6 +412,26 @@ public final class OddsEdgesTest {
         Check.law(x, ANSWER, 0, "say 2 k=2");
         due("3 and 3 at four askings", x.next(0), 8);
         due("no child", x.next(1), SameWater.NONE);
+    }
+
+    /** Each of the three heaps may be the greatest: less, the same, more at askings 0, 1, 2, by 4 of 5 laws or 3. */
+    private static void nextByEachHeap() {
+        for (int heap = 0; heap <= 2; heap++) {
+            for (int best = 0; best <= 2; best++) {
+                SameWater x = new SameWater();
+                x.child(50);
+                x.asking(0, 0, 1, false, 0, 0, 0);
+                x.asking(1, 0, 1, false, 0, 0, 0);
+                x.asking(2, 0, 1, false, 0, 0, 0);
+                int other = (heap + 1) % 3;
+                Check.law(x, ANSWER, 0, "say " + other + " k<9");
+                Check.law(x, ANSWER, 0, "say " + other + " k=" + best + ";say " + heap + " k<9");
+                Check.law(x, ANSWER, 0, "say " + heap + " k<9");
+                Check.law(x, ANSWER, 0, "say " + heap + " k<9");
+                Check.law(x, ANSWER, 0, "say " + heap + " k<9");
+                due("heap " + heap + " is less at " + best, x.next(0), best);
+            }
+        }
     }
 
     private static void nextOfEightLaws() {

@@ -92,7 +92,7 @@ public final class TellingEdgesTest {
 
     /** "E: T, or T|E. T: F, or F&T. F: !F, (E), or a TEST": all of two and three tests. */
     private static void joinedTests() {
-        String[] test = {"a<1", "a>1"};
+        String[] test = {"a<0", "a>0"};
         for (int bits = 0; bits < 8; bits++) {
             boolean p = (bits & 1) != 0;
             boolean q = (bits & 2) != 0;
