@@ -37,6 +37,7 @@ public final class ActsEdgesTest {
         imageIsNotInTheImage();
         traceIsNotInTheImage();
         lawsAfterAnUndo();
+        othersAfterAnUndo();
         imageTellsHowManyChildren();
         countsOfWhat();
         CHECK.end();
@@ -211,6 +212,10 @@ public final class ActsEdgesTest {
         for (int v = 0; v <= 9; v++) {
             due("v " + v, law(AGAIN, v, 0).as(0, KEPT), v);
             due("v " + v + " of another kind", law(AGAIN, v, 0).as(0, LENGTH), -6);
+            for (int kind = 0; kind <= 6; kind++) {
+                due("v " + v + " of kind " + kind, law(kind, v, 1).as(1, kind), v);
+                due("v " + v + " of an ANSWER", law(kind, v, 1).as(1, ANSWER), v);
+            }
         }
     }
 
@@ -407,6 +412,39 @@ public final class ActsEdgesTest {
         x.asking(0, 0, 1, false, 0, 1, 0);
         due("it tells", x.tells(2, 0, 0), 1);
         due("none above", x.tells(3, 0, 0), SameWater.NONE);
+    }
+
+    /** Children, askings and answers that come in the place of undone ones have nothing of them. */
+    private static void othersAfterAnUndo() {
+        SameWater x = law(KEPT, 0, 0);
+        x.child(90);
+        x.image();
+        x.child(50);
+        x.asking(3, 0, 2, true, 3, 9, 1);
+        for (int stuff = 0; stuff < 4; stuff++) {
+            x.teach(1, stuff);
+        }
+        x.answer(1, 0, 2, true);
+        x.undo();
+        due("another child", x.child(40), 1);
+        due("its age", x.age(1), 40);
+        due("it was taught nothing", x.spread(0, 1, 0), SameWater.STATE);
+        for (int stuff = 0; stuff < 4; stuff++) {
+            due("it does not keep " + stuff, x.keeps(0, 1, stuff), 0);
+        }
+        due("teaching is new", x.teach(1, 2), 1);
+        due("and that one alone", x.spread(0, 1, 0), 4);
+        due("another asking", x.asking(0, 2, 1, false, 0, 0, 0), 0);
+        int[] asking = {0, 2, 1, 0, 0, 0, 0};
+        for (int what = 0; what < asking.length; what++) {
+            due("of it " + what, x.of(0, what), asking[what]);
+        }
+        due("another answer", x.answer(0, 0, 1, false), 0);
+        int[] answer = {0, 0, 1, 0, 90};
+        for (int what = 0; what < answer.length; what++) {
+            due("of that " + what, x.answered(0, what), answer[what]);
+        }
+        due("nobody is fooled", x.fooled(), 0);
     }
 
     private static void imageTellsHowManyChildren() {

@@ -28,6 +28,7 @@ public final class OddsEdgesTest {
         nextOfSeveralTheLeast();
         nextByEachHeap();
         nextOfEightLaws();
+        theEighthLawAlone();
         CHECK.end();
     }
 
@@ -446,5 +447,25 @@ public final class OddsEdgesTest {
             Check.law(x, ANSWER, 0, law);
         }
         due("3 and 3 and 2 before 4 and 4", x.next(0), 1);
+    }
+
+    /** Of 8 laws only the last is unlike the others; of 40 answers only the last is its child's. */
+    private static void theEighthLawAlone() {
+        SameWater x = answered(39);
+        x.child(50);
+        x.asking(1, 1, 1, false, 0, 0, 0);
+        x.answer(1, 1, 2, false);
+        for (int i = 0; i < 7; i++) {
+            Check.law(x, ANSWER, 0, "slip 1");
+        }
+        due("none parts", x.next(1), -5);
+        due("none as told: the least", x.rule(1), 0);
+        Check.law(x, ANSWER, 0, "say 2 k=1");
+        due("next", x.next(1), 1);
+        due("rule", x.rule(1), 7);
+        due("rule of the other child", x.rule(0), 0);
+        due("likeliest", x.likeliest(255), 7);
+        due("right", x.right(7), 40);
+        due("parts", x.parts(0, 7), 2);
     }
 }

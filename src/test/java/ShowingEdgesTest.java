@@ -28,6 +28,7 @@ public final class ShowingEdgesTest {
         spreadAbove120();
         spreadOfTheTaughtAlone();
         spreadChangesNothing();
+        theFortiethAnswerAlone();
         CHECK.end();
     }
 
@@ -473,5 +474,36 @@ public final class ShowingEdgesTest {
         due("its age", x.age(0), 50);
         due("clay now", x.keeps(0, 0, 1), 0);
         due("clay not taught", x.teach(0, 1), 1);
+    }
+
+    /** What only the last of 40 answers shows. */
+    private static void theFortiethAnswerAlone() {
+        for (int truly = 0; truly <= 1; truly++) {
+            SameWater x = children(8, 50);
+            x.asking(0, NOBODY, 1, false, 0, 1, 0);
+            x.asking(1, BEAR, 1, false, 0, 1, truly);
+            for (int i = 0; i < 38; i++) {
+                x.answer(i % 7, 0, 1, false);
+            }
+            x.answer(7, 0, 1, false);
+            due("39 fool nobody", x.fooled(), 0);
+            due("39 are of one stuff", x.once(), 0);
+            due("39 are of no clay", x.from(1, true), -5);
+            moves(x, 1, 0, 1);
+            x.answer(7, 1, 1, true);
+            due("fooled", x.fooled(), truly == 1 ? 128 : 0);
+            due("all at once", x.once(), truly == 1 ? 0 : 128);
+            due("clay", x.from(1, true), truly == 1 ? -5 : 24);
+            moves(x, 1, truly == 1 ? 0 : 1, 1);
+        }
+        SameWater x = children(8, 50);
+        x.asking(0, NOBODY, 1, false, 0, 1, 0);
+        x.asking(1, NOBODY, 1, false, 0, 1, 0);
+        for (int i = 0; i < 39; i++) {
+            x.answer(7, 0, 1, false);
+        }
+        due("clay is not missed", x.order(0, 1), 0);
+        x.answer(7, 1, 0, false);
+        due("clay is missed", x.order(0, 1), 1);
     }
 }

@@ -21,6 +21,11 @@ public final class TellingEdgesTest {
         eachOfLesserNumbers();
         eachIsAgain();
         slipsTellNothing();
+        eachKindKeepsFrom84Without();
+        looksAboveNoneWhateverV();
+        eachKindOfTheAgeThen();
+        wantingOfTheAgeThen();
+        sayOfTheAgeThen();
         CHECK.end();
     }
 
@@ -278,5 +283,103 @@ public final class TellingEdgesTest {
     private static void slipsTellNothing() {
         due("slip 100", told(KEPT, 0, "slip 100", 84, 0, 0, 1, 0, 0, 5, 0), 1);
         due("slip 999", told(LENGTH, 0, "slip 999", 84, 0, 0, 1, 0, 0, 5, 0), 2);
+    }
+
+    private static final int[] KEEPING = {KEPT, AGAIN, WANTING, EACH};
+
+    /** "FROM .. (84 without)", by each KIND that asks whether it KEEPS. */
+    private static void eachKindKeepsFrom84Without() {
+        for (int kind : KEEPING) {
+            for (int stuff = 0; stuff < 4; stuff++) {
+                due("kind " + kind + " at 83", told(kind, 0, "slip 0", 83, stuff, 1, 1, 0, 0, 5, -1), 2);
+                due("kind " + kind + " at 84", told(kind, 0, "slip 0", 84, stuff, 1, 1, 0, 0, 5, -1), 0);
+            }
+        }
+    }
+
+    /** "as it LOOKS: more above 0, less below 0": v is none of it. */
+    private static void looksAboveNoneWhateverV() {
+        for (int kind : KEEPING) {
+            for (int v : new int[] {0, 1, 2, 9}) {
+                for (int looks = -2; looks <= 2; looks++) {
+                    String call = "kind " + kind + " v " + v + " looks " + looks;
+                    due(call + " not kept", told(kind, v, "slip 0", 50, 2, 1, 1, 0, 0, looks, 0), signed(looks));
+                    due(call + " twice", told(kind, v, "slip 0", 90, 2, 0, 2, 0, 0, looks, 0),
+                            kind == AGAIN || kind == EACH ? signed(looks) : 1);
+                }
+            }
+        }
+    }
+
+    /** "what it is as a law tells, of the AGE then": kept from 60 on, or since it was taught at 60. */
+    private static void eachKindOfTheAgeThen() {
+        for (int kind : KEEPING) {
+            for (String law : new String[] {"from 0 60;from 1 60", "slip 0"}) {
+                SameWater x = new SameWater();
+                x.child(59);
+                x.asking(1, 1, 1, false, 0, 5, -1);
+                x.answer(0, 0, 2, false);
+                x.answer(0, 0, 0, false);
+                x.grow(1);
+                x.answer(0, 0, 2, false);
+                x.answer(0, 0, 0, false);
+                if (law.equals("slip 0")) {
+                    x.teach(0, 0);
+                    x.teach(0, 1);
+                }
+                x.grow(5);
+                Check.law(x, kind, 0, law);
+                String call = "kind " + kind + " " + law;
+                due(call + " now", x.tells(0, 0, 0), 0);
+                int[] chances = {1, 0, 0, 1};
+                for (int answer = 0; answer < 4; answer++) {
+                    due(call + " of answer " + answer, x.chance(0, answer, 0), chances[answer]);
+                }
+                due(call + " right", x.right(0), 2);
+                due(call + " cannot", x.cannot(0), 1);
+                due(call + " odds", x.odds(0, 9, 0), 1);
+                due(call + " odds of none", x.odds(0, 6, 0), 0);
+            }
+        }
+    }
+
+    /** "if END is to eat and AGE is 6 times v or more": of answers, the AGE then; of children, each one's own. */
+    private static void wantingOfTheAgeThen() {
+        SameWater x = new SameWater();
+        x.child(90);
+        x.child(47);
+        x.asking(0, 1, 1, true, 0, 5, -1);
+        Check.law(x, WANTING, 8, "from 0 999");
+        for (int age = 47; age <= 49; age++) {
+            x.answer(1, 0, 0, false);
+            due("told at " + age, x.tells(0, 1, 0), age < 48 ? 2 : 0);
+            x.grow(1);
+        }
+        for (int answer = 0; answer < 3; answer++) {
+            due("at " + (47 + answer), x.chance(0, answer, 0), answer == 0 ? 0 : 1);
+        }
+        due("right", x.right(0), 2);
+        due("cannot", x.cannot(0), 0);
+        due("child 0", x.tells(0, 0, 0), 0);
+    }
+
+    private static void sayOfTheAgeThen() {
+        for (int kind = ANSWER; kind <= EACH; kind++) {
+            SameWater x = new SameWater();
+            x.child(90);
+            x.child(49);
+            x.asking(0, 1, 1, false, 0, 0, 0);
+            Check.law(x, kind, 1, "say 0 a<50;say 2 a=50");
+            for (int said = 0; said < 3; said++) {
+                x.answer(1, 0, 0, false);
+                x.answer(1, 0, 2, false);
+                x.answer(1, 0, 1, false);
+                x.grow(1);
+            }
+            int[] chances = {1, 0, 0, 0, 1, 0, 0, 0, 1};
+            for (int answer = 0; answer < chances.length; answer++) {
+                due("kind " + kind + " of answer " + answer, x.chance(0, answer, 0), chances[answer]);
+            }
+        }
     }
 }
