@@ -103,7 +103,7 @@ public final class ReadmeTest {
         Folder folder = project("one");
         CHECK.due("one: " + commands, folder.run("set -e\n" + commands), 0);
         CHECK.due("it passes", folder.said().endsWith(" answers, 0 not as due\n") ? 1 : 0, 1);
-        CHECK.due("it is alone", folder.said().split("\n").length, 1);
+        CHECK.due("it is alone", folder.said().split(" answers, ", -1).length, 2);
         // A class that does not hold the document's promises is found by it.
         Path source = Path.of("src/main/java/SameWater.java");
         String broken = Files.readString(source, StandardCharsets.ISO_8859_1).replace("from[stuff] = 84;", "from[stuff] = 83;");
