@@ -1,6 +1,7 @@
 import java.math.BigInteger;
 import java.util.ArrayList;
 import java.util.List;
+import java.util.regex.Pattern;
 
 /**
  * The document once more, in another way: laws stay texts that are split anew each time, faults are
@@ -257,6 +258,11 @@ final class Model {
 
     // ---- texts
 
+    private static final String NUMBER = "(0|[1-9][0-9]{0,2})";
+    private static final Pattern TEST = Pattern.compile("[akmtewc][<=>]" + NUMBER);
+    private static final Pattern PLAIN = Pattern.compile("from [0-3] N|over [0-3] [0-3] N|slip N".replace("N", NUMBER));
+    private static final Pattern SAY = Pattern.compile("(?s)say [0-2] .*");
+
     /** Where a sign stands first outside of brackets; -1. */
     private static int outside(String text, char sign) {
         int depth = 0;
@@ -318,7 +324,7 @@ final class Model {
         if (f.startsWith("(") && f.endsWith(")")) {
             return free > 0 && isEither(f.substring(1, f.length() - 1), free - 1);
         }
-        return f.matches("[akmtewc][<=>](0|[1-9][0-9]{0,2})");
+        return TEST.matcher(f).matches();
     }
 
     static boolean isLaw(String text) {
@@ -327,8 +333,8 @@ final class Model {
             return false;
         }
         for (String clause : clauses) {
-            boolean plain = clause.matches("from [0-3] N|over [0-3] [0-3] N|slip N".replace("N", "(0|[1-9][0-9]{0,2})"));
-            if (!plain && !(clause.matches("(?s)say [0-2] .*") && isEither(clause.substring(6), 5))) {
+            boolean isSay = clause.startsWith("say ") && SAY.matcher(clause).matches();
+            if (isSay ? !isEither(clause.substring(6), 5) : !PLAIN.matcher(clause).matches()) {
                 return false;
             }
         }
